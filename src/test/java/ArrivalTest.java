@@ -11,6 +11,7 @@ public final class ArrivalTest {
         withdrawnHorses();
         laidOffReturns();
         nothingReturned();
+        aSinglePenny();
         belowZero();
         buffersThatTellNothing();
         settleRefused();
@@ -206,6 +207,20 @@ public final class ArrivalTest {
         book.undo();
         Check.settled(book, "b");
         returned("the winner, without places", book, 0, 60 + 120 + 60, 2);
+    }
+
+    /** The least that can be returned is something, so it has the reason of what is returned. */
+    private static void aSinglePenny() {
+        FieldBook book = Check.field(5, 1, 20);
+        book.take(0, 1, false);
+        book.take(1, 1, true);
+        Check.settled(book, "a>b");
+        returned("a penny for winning", book, 0, 1, 2);
+        returned("a penny for a place", book, 1, 1, 3);
+        book.undo();
+        book.withdraw(4);
+        Check.settled(book, "a>b");
+        returned("a penny without places", book, 1, 1, 4);
     }
 
     private static void belowZero() {
