@@ -28,6 +28,13 @@ final class Check {
         }
     }
 
+    static void due(String what, String got, String want) {
+        if (!got.equals(want)) {
+            wrong++;
+            System.out.println(what + " answered " + got + ", due is " + want);
+        }
+    }
+
     /** The call must throw exactly this exception, and leave the book as it is. */
     static void refused(String what, FieldBook book, Class<?> exception, Call call) {
         long before = book.digest();
