@@ -2,10 +2,12 @@ import java.lang.reflect.Constructor;
 import java.lang.reflect.Field;
 import java.lang.reflect.Method;
 import java.lang.reflect.Modifier;
+import java.nio.file.Files;
+import java.nio.file.Path;
 import java.util.Set;
 import java.util.TreeSet;
 
-/** The public face: every member of the document, and no other. */
+/** The public face: every member of the document, and no other, in its order; run in the project's folder. */
 public final class FaceTest {
     private static final String A = " IllegalArgumentException";
     private static final String I = " IndexOutOfBoundsException";
@@ -20,6 +22,12 @@ public final class FaceTest {
         "int ifArrived()", "int ifWon(int)" + I, "int worst()", "int cover(int)" + I, "double safeShare()",
         "long digest()",
     };
+
+    /** The calls in the order of the document, and what "the interface says" ahead of them. */
+    private static final String IN_ORDER = "[horses, bets] horse price take layOff withdraw settle set "
+            + "[the buffer, snapshots] append clearBuffer firstError keep goBack undo "
+            + "[looks; nothing is changed] horseOf bet laid count setting "
+            + "[what would be; nothing is changed] ifArrived ifWon worst cover safeShare digest ";
 
     public static void main(String[] args) throws Exception {
         Set<String> want = new TreeSet<>(Set.of(METHODS));
@@ -43,9 +51,23 @@ public final class FaceTest {
         Check.due("public constructor without arguments",
                 Modifier.isPublic(made[0].getModifiers()) && made[0].getParameterCount() == 0 ? 1 : 0, 1);
         fields();
+        inOrder();
         noNameTwice(names);
         Check.due("NONE", FieldBook.NONE, -1);
         Check.end();
+    }
+
+    private static void inOrder() throws Exception {
+        StringBuilder got = new StringBuilder();
+        for (String line : Files.readAllLines(Path.of("src", "main", "java", "FieldBook.java"))) {
+            if (line.startsWith("    // ---- ")) {
+                got.append('[').append(line.substring(12)).append("] ");
+            } else if (line.matches("    public \\w+ \\w+\\(.*")) {
+                got.append(line.replaceAll("    public \\w+ (\\w+)\\(.*", "$1 "));
+            }
+        }
+        // behind the face stand the class's own parts, with headings of their own
+        Check.due("the calls in order", got.substring(0, Math.min(got.length(), IN_ORDER.length())), IN_ORDER);
     }
 
     private static String told(Method method) {
